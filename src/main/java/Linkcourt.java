@@ -859,8 +859,9 @@ public final class Linkcourt {
           return AT_ONCE - 1;
         }
       }
+      // who cannot join at once wins with the third move at best
       int top = -AT_ONCE;
-      for (int gap = 0; gap < gaps.count; gap++) {
+      for (int gap = 0; gap < gaps.count && top < AT_ONCE - 3; gap++) {
         if (has(free, gap)) {
           top = Math.max(top, scoreBehind(mine | 1 << gap, theirs, mover, depth));
         }
@@ -946,7 +947,7 @@ public final class Linkcourt {
           return false;
         }
       }
-      return rest != 0;
+      return true;
     }
 
     private boolean hasAnswer(int mine, int rest, int depth) {

@@ -69,7 +69,11 @@ public final class RandomRuns {
         int columns = kind == 1 ? rows : (kind == 2 ? 3 : 2) + random.nextInt(most - kind / 2);
         call("game", kind, rows, columns);
         made++;
-        for (int i = random.nextInt(37); i > 0 && made < CALLS - 1 && needsMoves(); i--) {
+        if (names == CLOCKS) {
+          call("clocks", arguments("clocks"));
+          made++;
+        }
+        for (int i = names == CLOCKS ? 0 : random.nextInt(37); i > 0 && made < CALLS - 1 && needsMoves(); i--) {
           call("move", emptyCell());
           made++;
         }
