@@ -146,58 +146,37 @@ public final class Linkcourt {
   // ---- best play
 
   public int best() throws IllegalStateException {
-    if (hasManyGaps()) {
-      throw new IllegalStateException("more than 9 cells are empty");
-    }
+    needFewGaps();
     return bestPlay.winnerOf(play.stones0, play.stones1, play.mover());
   }
 
   public long wins() throws IllegalStateException {
-    if (hasManyGaps()) {
-      throw new IllegalStateException("more than 9 cells are empty");
-    }
+    needFewGaps();
     return bestPlay.winsOf(play.stones0, play.stones1, play.mover());
   }
 
   public int lasts() throws IllegalStateException {
-    if (hasManyGaps()) {
-      throw new IllegalStateException("more than 9 cells are empty");
-    }
+    needFewGaps();
     return bestPlay.lengthOf(play.stones0, play.stones1, play.mover());
   }
 
   public long dead() throws IllegalStateException {
-    if (hasManyGaps()) {
-      throw new IllegalStateException("more than 9 cells are empty");
-    }
+    needFewGaps();
     return bestPlay.deadOf(play.stones0, play.stones1, play.mover());
   }
 
   public long carrier(int player, int one, int other) throws IndexOutOfBoundsException,
       IllegalArgumentException, IllegalStateException {
-    if (!isPlayer(player) || !board.hasEnd(one) || !board.hasEnd(other)) {
-      throw new IndexOutOfBoundsException("there is no such player, cell or side");
-    }
-    if (one == other || !isEndOf(player, one) || !isEndOf(player, other)) {
-      throw new IllegalArgumentException("these are no two ends of that player");
-    }
-    if (hasManyGaps()) {
-      throw new IllegalStateException("more than 9 cells are empty");
-    }
+    needLink(player, one, other);
     return links.carrierOf(play.stones(player), play.empty(), one, other);
   }
 
   public int answer(int player, int one, int other, int cell) throws IndexOutOfBoundsException,
       IllegalArgumentException, IllegalStateException {
-    if (!isPlayer(player) || !board.hasEnd(one) || !board.hasEnd(other) || !board.hasCell(cell)) {
-      throw new IndexOutOfBoundsException("there is no such player, cell or side");
+    if (!board.hasCell(cell)) {
+      throw new IndexOutOfBoundsException("there is no such cell");
     }
-    if (one == other || !isEndOf(player, one) || !isEndOf(player, other)) {
-      throw new IllegalArgumentException("these are no two ends of that player");
-    }
-    if (hasManyGaps()) {
-      throw new IllegalStateException("more than 9 cells are empty");
-    }
+    needLink(player, one, other);
     long carrier = links.carrierOf(play.stones(player), play.empty(), one, other);
     return carrier == NONE || !has(carrier, cell) ? NONE : links.answerIn(carrier, cell);
   }
@@ -407,8 +386,20 @@ public final class Linkcourt {
     return times.loser != NONE ? 1 - times.loser : play.joined;
   }
 
-  private boolean hasManyGaps() {
-    return Long.bitCount(play.empty()) > MOST_GAPS;
+  private void needFewGaps() {
+    if (Long.bitCount(play.empty()) > MOST_GAPS) {
+      throw new IllegalStateException("more than 9 cells are empty");
+    }
+  }
+
+  private void needLink(int player, int one, int other) {
+    if (!isPlayer(player) || !board.hasEnd(one) || !board.hasEnd(other)) {
+      throw new IndexOutOfBoundsException("there is no such player, cell or side");
+    }
+    if (one == other || !isEndOf(player, one) || !isEndOf(player, other)) {
+      throw new IllegalArgumentException("these are no two ends of that player");
+    }
+    needFewGaps();
   }
 
   private boolean isEndOf(int player, int end) {
@@ -551,7 +542,8 @@ public final class Linkcourt {
       long seen = from & within & all;
       long edge = seen;
       for (int i = 0; i < MOST_CELLS && edge != 0; i++) {
-        long fresh = around(lowest(edge)) & within & ~seen;
+        int cell = Long.bitCount((edge & -edge) - 1);
+        long fresh = cell < MOST_CELLS ? aroundOf[cell] & within & ~seen : 0;
         seen |= fresh;
         edge = edge & (edge - 1) | fresh;
       }
@@ -775,8 +767,8 @@ public final class Linkcourt {
 
     int winnerOf(long of0, long of1, int mover) {
       take(of0, of1, mover);
-      int joined = joinedAlready();
-      return joined != NONE ? joined : score(0, 0, turn, 0) > 0 ? turn : 1 - turn;
+      int already = joinedAlready();
+      return already != NONE ? already : score(0, 0, turn, 0) > 0 ? turn : 1 - turn;
     }
 
     int lengthOf(long of0, long of1, int mover) {
@@ -846,26 +838,21 @@ public final class Linkcourt {
       if (at < 0 || at >= scores.length || depth > MOST_GAPS) {
         return -AT_ONCE;
       }
-      if (scores[at] == UNKNOWN) {
-        scores[at] = (byte) searched(mine, theirs, mover, depth);
+      if (scores[at] != UNKNOWN) {
+        return scores[at];
       }
-      return scores[at];
-    }
-
-    private int searched(int mine, int theirs, int mover, int depth) {
       int free = gaps.full() & ~(mine | theirs);
-      for (int gap = 0; gap < gaps.count; gap++) {
-        if (has(free, gap) && joins(mover, mine | 1 << gap)) {
-          return AT_ONCE - 1;
-        }
+      int top = -AT_ONCE;
+      for (int gap = 0; gap < gaps.count && top < AT_ONCE - 1; gap++) {
+        top = has(free, gap) && joins(mover, mine | 1 << gap) ? AT_ONCE - 1 : top;
       }
       // who cannot join at once wins with the third move at best
-      int top = -AT_ONCE;
       for (int gap = 0; gap < gaps.count && top < AT_ONCE - 3; gap++) {
         if (has(free, gap)) {
           top = Math.max(top, scoreBehind(mine | 1 << gap, theirs, mover, depth));
         }
       }
+      scores[at] = (byte) top;
       return top;
     }
 
