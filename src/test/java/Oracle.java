@@ -19,6 +19,7 @@ final class Oracle {
 
   private int kind, rows, columns;
   private final List<int[]> places = new ArrayList<>();
+  private final List<List<Integer>> around = new ArrayList<>();
   private final List<int[]> history = new ArrayList<>(); // owners ahead of each move
   private final List<Integer> movedTo = new ArrayList<>();
   private boolean swapped;
@@ -49,6 +50,10 @@ final class Oracle {
       for (int c = 0; c < (kind == TRIANGLE ? r + 1 : columns); c++) {
         places.add(new int[] {r, c});
       }
+    }
+    around.clear();
+    for (int i = 0; i < places.size(); i++) {
+      around.add(neighboursAnew(i));
     }
     owners = new int[places.size()];
     Arrays.fill(owners, NONE);
@@ -100,6 +105,10 @@ final class Oracle {
   }
 
   private List<Integer> neighbours(int cell) {
+    return around.get(cell);
+  }
+
+  private List<Integer> neighboursAnew(int cell) {
     List<Integer> found = new ArrayList<>();
     for (int d = 0; d < 6; d++) {
       int next = next(cell, d);
@@ -353,7 +362,7 @@ final class Oracle {
 
   /** n, if the player to move wins, in n moves; -n, if the other one does. */
   private int outcome(int[] owners, int turn, Map<String, Integer> known) {
-    String key = Arrays.toString(owners);
+    String key = key(owners, 0);
     Integer found = known.get(key);
     if (found != null) {
       return found;
@@ -379,6 +388,14 @@ final class Oracle {
     int result = win > 0 ? win : -loss;
     known.put(key, result);
     return result;
+  }
+
+  private static String key(int[] owners, long left) {
+    char[] signs = new char[owners.length];
+    for (int i = 0; i < signs.length; i++) {
+      signs[i] = (left >> i & 1) != 0 ? 'l' : (char) ('b' + owners[i]);
+    }
+    return new String(signs);
   }
 
   private int bestOf(int[] owners, int turn) {
@@ -466,7 +483,7 @@ final class Oracle {
     if (left == 0) {
       return endsJoined(owners, player, ends[0], ends[1]);
     }
-    String key = left + Arrays.toString(owners);
+    String key = key(owners, left);
     Boolean found = known.get(key);
     if (found != null) {
       return found;
@@ -546,39 +563,96 @@ final class Oracle {
 
   // ---- far, playing out
 
-  /** Tries all sets of empty cells; fit for some 16 empty cells at most. */
+  /** The fewest of all sets of empty cells, where they are few; told twice there. */
   int far(int player) {
     index(player < 0 || player > 1);
     state(player == 1 && kind == CYLINDER);
+    int fewest = fewestByParts(player);
+    if (emptyCount(owners) <= 10 && fewest != fewestOfAllSets(player)) {
+      throw new NoSuchElementException("the Oracle is at odds with itself on far");
+    }
+    return fewest;
+  }
+
+  private int fewestOfAllSets(int player) {
     List<Integer> empties = new ArrayList<>();
     for (int i = 0; i < owners.length; i++) {
       if (owners[i] == NONE) {
         empties.add(i);
       }
     }
-    for (int size = 0; size <= empties.size(); size++) {
-      for (int set = 0; set < 1 << empties.size(); set++) {
-        if (Integer.bitCount(set) == size) {
-          int[] then = owners.clone();
-          for (int i = 0; i < empties.size(); i++) {
-            then[empties.get(i)] = (set >> i & 1) != 0 ? player : NONE;
-          }
-          if (joined(then, player)) {
-            return size;
-          }
+    int fewest = NONE;
+    for (int set = 0; set < 1 << empties.size(); set++) {
+      int size = Integer.bitCount(set);
+      if (fewest == NONE || size < fewest) {
+        int[] then = owners.clone();
+        for (int i = 0; i < empties.size(); i++) {
+          then[empties.get(i)] = (set >> i & 1) != 0 ? player : NONE;
         }
+        fewest = joined(then, player) ? size : fewest;
       }
-      if (size == 0) {
-        int[] all = owners.clone();
-        for (int cell : empties) {
-          all[cell] = player;
-        }
-        if (!joined(all, player)) {
-          return NONE;
+    }
+    return fewest;
+  }
+
+  /**
+   * Grows hanging sets of cells cell by cell and joins two of them where they meet: of each cell
+   * and each set of sides the fewest empty cells of a set that has the cell and is at these sides.
+   */
+  private int fewestByParts(int player) {
+    int needed = kind == TRIANGLE ? 7 : kind == RHOMB && player == 1 ? 12 : 3;
+    int[][] fewest = new int[16][owners.length];
+    for (int sides = 0; sides < 16; sides++) {
+      for (int cell = 0; cell < owners.length; cell++) {
+        boolean alone = owners[cell] != 1 - player && (sidesOf(cell) & needed) == sides;
+        fewest[sides][cell] = alone ? weight(cell) : 1000;
+      }
+    }
+    boolean changed = true;
+    while (changed) {
+      changed = false;
+      for (int sides = 0; sides < 16; sides++) {
+        for (int cell = 0; cell < owners.length; cell++) {
+          changed |= fewest[sides][cell] < 1000 && grow(fewest, sides, cell, player, needed);
         }
       }
     }
-    return NONE;
+    int least = 1000;
+    for (int found : fewest[needed]) {
+      least = Math.min(least, found);
+    }
+    return least == 1000 ? NONE : least;
+  }
+
+  private boolean grow(int[][] fewest, int sides, int cell, int player, int needed) {
+    boolean changed = false;
+    for (int next : neighbours(cell)) {
+      int more = sides | sidesOf(next) & needed, count = fewest[sides][cell] + weight(next);
+      if (owners[next] != 1 - player && count < fewest[more][next]) {
+        fewest[more][next] = count;
+        changed = true;
+      }
+    }
+    for (int others = 0; others < 16; others++) {
+      int count = fewest[sides][cell] + fewest[others][cell] - weight(cell);
+      if (count < fewest[sides | others][cell]) {
+        fewest[sides | others][cell] = count;
+        changed = true;
+      }
+    }
+    return changed;
+  }
+
+  private int weight(int cell) {
+    return owners[cell] == NONE ? 1 : 0;
+  }
+
+  private int sidesOf(int cell) {
+    int bits = 0;
+    for (int side = 0; side < sideCount(); side++) {
+      bits |= atSide(cell, side) ? 1 << side : 0;
+    }
+    return bits;
   }
 
   private int[] playOut(int seed) {
@@ -609,7 +683,7 @@ final class Oracle {
     for (int a = 0; a < owners.length; a++) {
       for (int b = a + 1; b < owners.length; b++) {
         if (owners[a] == player && owners[b] == player && !neighbours(a).contains(b)) {
-          List<Integer> common = neighbours(a);
+          List<Integer> common = new ArrayList<>(neighbours(a));
           common.retainAll(neighbours(b));
           if (common.size() == 2 && common.contains(last)) {
             int mending = common.get(0) == last ? common.get(1) : common.get(0);

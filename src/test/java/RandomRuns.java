@@ -94,13 +94,11 @@ public final class RandomRuns {
     return oracle.told(4) == -1 && (names != BEST_PLAY || oracle.told(2) > 5 + random.nextInt(5));
   }
 
-  /** The Oracle tries all sets of empty cells: it is asked where they are few. */
+  /** The Oracle tries all sets of empty cells for a link: it is asked where they are few. */
   private boolean isDear(String name) {
     int empty = oracle.told(2);
-    if (name.equals("carrier") || name.equals("answer")) {
-      return empty > 6 && empty < 10 && random.nextInt(empty < 8 ? 3 : 60) != 0;
-    }
-    return name.equals("far") && empty > (random.nextInt(6) == 0 ? 16 : 12);
+    return (name.equals("carrier") || name.equals("answer"))
+        && empty > 6 && empty < 10 && random.nextInt(empty < 8 ? 2 : 30) != 0;
   }
 
   private void call(String name, long... arguments) {
