@@ -6,27 +6,20 @@ import java.util.Map;
 
 /** Calls of the face by name, on a Linkcourt or on an Oracle. */
 final class Calls {
-  private static final Map<String, Method> FACE = new HashMap<>();
-  private static final Map<String, Method> OF_ORACLE = new HashMap<>();
-
-  static {
-    for (Method method : Linkcourt.class.getDeclaredMethods()) {
-      if (Modifier.isPublic(method.getModifiers())) {
-        FACE.put(method.getName(), method);
-        OF_ORACLE.put(method.getName(), ofOracle(method));
-      }
-    }
-  }
+  private static final Map<String, Method> OF_LINKCOURT = methods(Linkcourt.class);
+  private static final Map<String, Method> OF_ORACLE = methods(Oracle.class);
 
   private Calls() {
   }
 
-  private static Method ofOracle(Method face) {
-    try {
-      return Oracle.class.getDeclaredMethod(face.getName(), face.getParameterTypes());
-    } catch (NoSuchMethodException e) {
-      throw new IllegalStateException(e);
+  private static Map<String, Method> methods(Class<?> one) {
+    Map<String, Method> methods = new HashMap<>();
+    for (Method method : one.getDeclaredMethods()) {
+      if (!Modifier.isPrivate(method.getModifiers())) {
+        methods.put(method.getName(), method);
+      }
     }
+    return methods;
   }
 
   static String text(String name, long... arguments) {
@@ -39,7 +32,7 @@ final class Calls {
 
   /** The answer as a text (a boolean counts 1 or 0), or "throws." and what was thrown. */
   static String answer(Object court, String name, long... arguments) {
-    Method method = (court instanceof Oracle ? OF_ORACLE : FACE).get(name);
+    Method method = (court instanceof Oracle ? OF_ORACLE : OF_LINKCOURT).get(name);
     Class<?>[] types = method == null ? new Class<?>[0] : method.getParameterTypes();
     if (method == null || types.length != arguments.length) {
       throw new IllegalArgumentException("no call of the face: " + text(name, arguments));

@@ -1,8 +1,8 @@
 /** Promises 1 to 8: for each sentence that names a boundary case, runs that hold to it. */
 final class GameEdges {
   private static final int RHOMB = 0, TRIANGLE = 1, CYLINDER = 2;
-  private static final String WON_BY_0 = " game(0,2,2)=4 move(0)=-1 move(3)=-1 move(1)=0 ";
-  private static final String WON_BY_1 = " game(0,2,2)=4 move(0)=-1 move(1)=-1 move(3)=-1 move(2)=1 ";
+  private static final String WON_BY_0 = Script.WON_BY_0;
+  private static final String WON_BY_1 = Script.WON_BY_1;
   private static final String LOST_ON_TIME_BY_0 =
       " game(0,2,2)=4 clocks(1,0,1)=nothing think(2)=1 ";
   private static final String LOST_ON_TIME_BY_1 =
@@ -14,6 +14,10 @@ final class GameEdges {
       18, 13, 16, 4};
   static final int[] FULL_CYLINDER = {2, 18, 31, 23, 0, 28, 3, 9, 34, 26, 14, 21, 13, 17, 30, 15,
       22, 32, 29, 33, 6, 25, 35, 7, 4, 1, 24, 5, 10, 11, 19, 20, 27, 12, 16, 8};
+
+  /** Moves behind a swap on the cell 0; then the cell 34 alone is empty, and decides. */
+  private static final int[] SWAPPED_RHOMB = {13, 4, 14, 10, 15, 16, 17, 22, 18, 28, 19, 1, 20, 2, 21,
+      3, 23, 6, 24, 7, 25, 8, 26, 9, 27, 5, 29, 11, 31, 12, 32, 30, 33, 35};
 
   private GameEdges() {
   }
@@ -31,6 +35,7 @@ final class GameEdges {
     fullBoards();
     swapRefused();
     swapOnBoards();
+    swapOnFullBoards();
     undo();
     undoOfGameThatIsOver();
     told();
@@ -66,12 +71,12 @@ final class GameEdges {
 
   private static void newObject() {
     edge(1, "a game on an empty RHOMB of two rows and two columns",
-        "told(0)=0 told(1)=0 told(2)=4 told(3)=-1 told(4)=-1 told(5)=0 told(6)=0",
-        "cell(0,0)=-1 cell(1,0)=-1 cell(2,0)=-1 cell(3,0)=-1 cell(4,0)=IOOBE",
-        "cell(0,4)=0 cell(1,4)=0 cell(2,4)=1 cell(3,4)=1 cell(1,5)=1 cell(2,5)=0 cell(3,5)=1",
-        "neighbour(0,0)=1 neighbour(0,1)=2 neighbour(0,2)=-1 neighbour(0,3)=-1 neighbour(1,0)=-1",
-        "neighbour(1,1)=3 neighbour(1,2)=2 neighbour(3,0)=-1 wins()=6 best()=0 lasts()=3",
-        "carrier(0,100,103)=-1 carrier(0,100,104)=IOOBE far(0)=2 far(1)=2");
+        "told(0)=0 told(1)=0 told(2)=4 told(3)=-1 told(4)=-1 told(5)=0 told(6)=0 cell(0,0)=-1",
+        "cell(1,0)=-1 cell(2,0)=-1 cell(3,0)=-1 cell(4,0)=IOOBE cell(0,4)=0 cell(1,4)=0",
+        "cell(2,4)=1 cell(3,4)=1 cell(1,5)=1 cell(2,5)=0 cell(3,5)=1 neighbour(0,0)=1",
+        "neighbour(0,1)=2 neighbour(0,2)=-1 neighbour(0,3)=-1 neighbour(1,0)=-1 neighbour(1,1)=3",
+        "neighbour(1,2)=2 neighbour(3,0)=-1 wins()=6 best()=0 lasts()=3 carrier(0,100,103)=-1",
+        "carrier(0,100,104)=IOOBE far(0)=2 far(1)=2");
     edge(1, "a game: it has no move yet", "undo()=ISE swap()=ISE gaveAway(0)=IOOBE told(0)=0");
     edge(1, "a game: it goes on, and is not recorded",
         "person()=0 person()=1 record(0,1)=ISE move(0)=-1 undo()=0", WON_BY_0.substring(14),
@@ -141,8 +146,9 @@ final class GameEdges {
       }
     }
     edge(2, "returns how many cells it has", all.toString());
-    edge(2, "of a RHOMB rows and columns are told apart", "game(0,2,6)=12 cell(11,4)=1 cell(11,5)=5",
-        "cell(6,4)=1 cell(6,5)=0 game(0,6,2)=12 cell(11,4)=5 cell(11,5)=1 cell(6,4)=3 cell(6,5)=0");
+    edge(2, "of a RHOMB rows and columns are told apart", "game(0,2,6)=12 cell(11,4)=1",
+        "cell(11,5)=5 cell(6,4)=1 cell(6,5)=0 game(0,6,2)=12 cell(11,4)=5 cell(11,5)=1",
+        "cell(6,4)=3 cell(6,5)=0");
   }
 
   private static String cellsOf(int kind, int rows, int columns) {
@@ -179,6 +185,8 @@ final class GameEdges {
         "tape(..)= game(2,3,3)=9 wipe()=2 fits(0,0)=511 ofPerson(0,0)=1000 person()=1");
     edge(2, "what is refused leaves the game as it is", "clocks(9,1,5)=nothing move(1)=-1 swap()=2",
         "game(0,2,7)=IAE told(0)=2 cell(2,6)=1 think(1)=-1 clock(0,0)=8 undo()=1 cell(1,6)=0");
+    edge(2, "what is refused leaves a recorded game recorded", "person()=0 person()=1", WON_BY_0,
+        "record(0,1)=1016 game(3,2,2)=IAE undo()=ISE record(0,1)=ISE told(4)=0");
   }
 
   // ---- promise 3
@@ -238,10 +246,10 @@ final class GameEdges {
     edge(3, "a group hangs together by neighbours: the cells 0 and 4 of a RHOMB are none",
         "game(0,2,3)=6 move(0)=-1 move(5)=-1 move(4)=-1 move(2)=1 told(5)=2");
     edge(3, "two stones are enough on the smallest RHOMB", WON_BY_0, WON_BY_1,
-        "game(0,2,2)=4 move(1)=-1 move(0)=-1 move(2)=0 game(0,2,2)=4 move(0)=-1 move(3)=-1 move(2)=-1",
-        "move(1)=1");
-    edge(3, "both sides as one long row", "game(0,2,6)=12 move(0)=-1 move(6)=-1 move(1)=-1 move(7)=-1",
-        "move(2)=-1 move(8)=-1 move(3)=-1 move(9)=-1 move(4)=-1 move(10)=-1 move(5)=0");
+        "game(0,2,2)=4 move(1)=-1 move(0)=-1 move(2)=0 game(0,2,2)=4 move(0)=-1 move(3)=-1",
+        "move(2)=-1 move(1)=1");
+    edge(3, "both sides as one long row", "game(0,2,6)=12 move(0)=-1 move(6)=-1 move(1)=-1",
+        "move(7)=-1 move(2)=-1 move(8)=-1 move(3)=-1 move(9)=-1 move(4)=-1 move(10)=-1 move(5)=0");
   }
 
   private static void joinedOnTriangle() {
@@ -261,8 +269,8 @@ final class GameEdges {
 
   private static void joinedOnCylinder() {
     edge(3, "on a CYLINDER the player 0 joins both sides over the seam",
-        "game(2,2,3)=6 move(0)=-1 move(3)=-1 move(5)=0",
-        "game(2,3,4)=12 move(0)=-1 move(4)=-1 move(7)=-1 move(1)=-1 told(3)=-1 move(10)=0");
+        "game(2,2,3)=6 move(0)=-1 move(3)=-1 move(5)=0 game(2,3,4)=12 move(0)=-1 move(4)=-1",
+        "move(7)=-1 move(1)=-1 told(3)=-1 move(10)=0");
     edge(3, "on a CYLINDER a ring of the player 0 does not win",
         "game(2,3,3)=9 move(3)=-1 move(0)=-1 move(4)=-1 move(7)=-1 move(5)=-1 told(3)=-1");
     edge(3, "on a CYLINDER the player 1 does not win by a group at both sides",
@@ -280,10 +288,9 @@ final class GameEdges {
         "game(2,2,3)=6 move(0)=-1 move(4)=-1 move(1)=-1 move(5)=-1 told(3)=-1 move(3)=0",
         "game(2,2,3)=6 move(0)=-1 move(3)=-1 move(1)=-1 move(4)=-1 told(3)=-1 move(5)=0");
     edge(3, "a ring may wind over the seam", "game(2,2,3)=6 move(2)=-1 move(0)=-1 move(3)=-1",
-        "move(1)=-1 told(3)=-1 move(5)=0",
-        "game(2,2,3)=6 move(2)=-1 move(0)=-1 move(3)=-1 move(4)=-1 undo()=3 move(5)=-1 move(4)=0",
-        "game(2,3,3)=9 move(2)=-1 move(0)=-1 move(3)=-1 move(1)=-1 move(6)=-1 move(4)=-1",
-        "move(7)=-1 move(5)=1");
+        "move(1)=-1 told(3)=-1 move(5)=0 game(2,2,3)=6 move(2)=-1 move(0)=-1 move(3)=-1",
+        "move(4)=-1 undo()=3 move(5)=-1 move(4)=0 game(2,3,3)=9 move(2)=-1 move(0)=-1 move(3)=-1",
+        "move(1)=-1 move(6)=-1 move(4)=-1 move(7)=-1 move(5)=1");
   }
 
   private static void fullBoards() {
@@ -298,9 +305,9 @@ final class GameEdges {
         moves(FULL_CYLINDER, 0, 35), "told(2)=1 told(3)=-1 move(8)=1 told(2)=0 told(3)=1",
         "move(8)=IAE undo()=35 undo()=34 move(8)=0 told(2)=1");
     edge(3, "when all cells are taken: small ones",
-        "game(1,2,2)=3 move(1)=-1 move(2)=-1 move(0)=0 told(2)=0",
-        "game(0,2,2)=4 move(3)=-1 move(1)=-1 move(0)=-1 move(2)=1 told(2)=0",
-        "game(2,2,3)=6 move(1)=-1 move(3)=-1 move(0)=-1 move(4)=-1 move(2)=-1 move(5)=1 told(2)=0");
+        "game(1,2,2)=3 move(1)=-1 move(2)=-1 move(0)=0 told(2)=0 game(0,2,2)=4 move(3)=-1",
+        "move(1)=-1 move(0)=-1 move(2)=1 told(2)=0 game(2,2,3)=6 move(1)=-1 move(3)=-1 move(0)=-1",
+        "move(4)=-1 move(2)=-1 move(5)=1 told(2)=0");
   }
 
   // ---- promise 4
@@ -323,19 +330,18 @@ final class GameEdges {
 
   private static void swapOnBoards() {
     edge(4, "row and column exchanged on a RHOMB with as many rows as columns",
-        "move(1)=-1 swap()=2 undo()=1 undo()=0 move(2)=-1 swap()=1",
-        "game(0,3,3)=9 move(2)=-1 swap()=6 cell(2,0)=-1 cell(6,0)=1 cell(6,6)=1",
-        "game(0,4,4)=16 move(12)=-1 swap()=3 game(0,5,5)=25 move(9)=-1 swap()=21",
-        "game(0,6,6)=36 move(5)=-1 swap()=30 undo()=1 undo()=0 move(34)=-1 swap()=29",
-        "undo()=1 undo()=0 move(30)=-1 swap()=5");
+        "move(1)=-1 swap()=2 undo()=1 undo()=0 move(2)=-1 swap()=1 game(0,3,3)=9 move(2)=-1",
+        "swap()=6 cell(2,0)=-1 cell(6,0)=1 cell(6,6)=1 game(0,4,4)=16 move(12)=-1 swap()=3",
+        "game(0,5,5)=25 move(9)=-1 swap()=21 game(0,6,6)=36 move(5)=-1 swap()=30 undo()=1",
+        "undo()=0 move(34)=-1 swap()=29 undo()=1 undo()=0 move(30)=-1 swap()=5");
     edge(4, "a stone with its row as its column stays", "move(0)=-1 swap()=0 cell(0,0)=1",
-        "cell(0,6)=1 undo()=1 cell(0,0)=0 cell(0,6)=0 undo()=0 move(3)=-1 swap()=3",
-        "game(0,6,6)=36 move(0)=-1 swap()=0 undo()=1 undo()=0 move(35)=-1 swap()=35 told(2)=35",
-        "game(0,3,3)=9 move(4)=-1 swap()=4");
+        "cell(0,6)=1 undo()=1 cell(0,0)=0 cell(0,6)=0 undo()=0 move(3)=-1 swap()=3 game(0,6,6)=36",
+        "move(0)=-1 swap()=0 undo()=1 undo()=0 move(35)=-1 swap()=35 told(2)=35 game(0,3,3)=9",
+        "move(4)=-1 swap()=4");
     edge(4, "on a RHOMB with other columns than rows the stone stays",
-        "game(0,2,3)=6 move(1)=-1 swap()=1 game(0,3,2)=6 move(1)=-1 swap()=1",
-        "game(0,5,6)=30 move(5)=-1 swap()=5 game(0,6,5)=30 move(25)=-1 swap()=25",
-        "game(0,2,6)=12 move(11)=-1 swap()=11 cell(11,0)=1 cell(11,6)=1");
+        "game(0,2,3)=6 move(1)=-1 swap()=1 game(0,3,2)=6 move(1)=-1 swap()=1 game(0,5,6)=30",
+        "move(5)=-1 swap()=5 game(0,6,5)=30 move(25)=-1 swap()=25 game(0,2,6)=12 move(11)=-1",
+        "swap()=11 cell(11,0)=1 cell(11,6)=1");
     edge(4, "on a CYLINDER the stone stays, with as many rows as columns too",
         "game(2,3,3)=9 move(2)=-1 swap()=2 game(2,6,6)=36 move(5)=-1 swap()=5 cell(5,0)=1",
         "game(2,2,3)=6 move(5)=-1 swap()=5");
@@ -348,6 +354,16 @@ final class GameEdges {
         "undo()=3 undo()=2 undo()=1 undo()=0 undo()=ISE told(2)=3");
   }
 
+  private static void swapOnFullBoards() {
+    edge(4, "a swap makes one move more than cells: 37 of the largest RHOMB", "game(0,6,6)=36",
+        "move(0)=-1 swap()=0", moves(SWAPPED_RHOMB, 0, 34), "told(2)=1 told(0)=36 move(34)=0",
+        "told(2)=0 told(0)=37 told(1)=1 cell(34,6)=36 cell(0,6)=1 gaveAway(36)=0 gaveAway(1)=IAE",
+        "gaveAway(37)=IOOBE undo()=36 cell(34,0)=-1 told(3)=-1 undo()=35 told(2)=2");
+    edge(4, "a swap makes one move more than cells: all of them taken back", "game(0,6,6)=36",
+        "move(0)=-1 swap()=0", moves(SWAPPED_RHOMB, 0, 34), "move(34)=0", undone(37),
+        "undo()=ISE told(2)=36 told(6)=0 swap()=ISE move(1)=-1 swap()=6 cell(6,6)=1");
+  }
+
   // ---- promise 5
 
   private static void undo() {
@@ -355,15 +371,16 @@ final class GameEdges {
     edge(5, "returns how many moves are left", "move(0)=-1 move(1)=-1 move(3)=-1 undo()=2 undo()=1",
         "undo()=0 undo()=ISE");
     edge(5, "a swap taken back gives the player 0 its stone where it was",
-        "game(0,3,3)=9 move(1)=-1 swap()=3 undo()=1 cell(1,0)=0 cell(1,6)=0 cell(3,0)=-1 told(1)=1",
-        "told(5)=1 told(6)=0 undo()=0 cell(1,0)=-1 told(2)=9 undo()=ISE");
+        "game(0,3,3)=9 move(1)=-1 swap()=3 undo()=1 cell(1,0)=0 cell(1,6)=0 cell(3,0)=-1",
+        "told(1)=1 told(5)=1 told(6)=0 undo()=0 cell(1,0)=-1 told(2)=9 undo()=ISE");
     edge(5, "a swap taken back that left the stone where it was",
         "move(0)=-1 swap()=0 undo()=1 cell(0,0)=0 cell(0,6)=0 told(6)=0 move(3)=-1 cell(0,0)=0");
     edge(5, "behind a swap that was taken back the second move is a move",
         "move(1)=-1 swap()=2 undo()=1 move(0)=-1 gaveAway(1)=0 cell(1,0)=0 cell(2,0)=-1 undo()=1",
         "undo()=0 move(0)=-1 swap()=0 undo()=1 move(3)=-1 gaveAway(1)=1 cell(0,6)=0");
     edge(5, "from a full board to an empty one", "game(0,6,6)=36", moves(FULL_RHOMB, 0, 35),
-        "move(4)=1", undone(36), "undo()=ISE told(2)=36 cell(22,0)=-1 told(5)=0 told(6)=0 far(0)=6");
+        "move(4)=1", undone(36), "undo()=ISE told(2)=36 cell(22,0)=-1 told(5)=0 told(6)=0",
+        "far(0)=6");
     edge(5, "from a full CYLINDER to an empty one", "game(2,6,6)=36", moves(FULL_CYLINDER, 0, 35),
         "move(8)=1", undone(36), "undo()=ISE told(2)=36 told(3)=-1");
   }
@@ -384,8 +401,9 @@ final class GameEdges {
         "cell(0,0)=0");
     edge(5, "the game was lost on time, and there are none", LOST_ON_TIME_BY_0,
         "undo()=ISE told(4)=1");
-    edge(5, "the game was recorded", "person()=0 person()=1", WON_BY_0, "record(1,0)=1016 undo()=ISE",
-        "told(0)=3 told(4)=0 cell(1,0)=0", "game(0,2,2)=4 move(0)=-1 undo()=0");
+    edge(5, "the game was recorded", "person()=0 person()=1", WON_BY_0,
+        "record(1,0)=1016 undo()=ISE told(0)=3 told(4)=0 cell(1,0)=0 game(0,2,2)=4 move(0)=-1",
+        "undo()=0");
     edge(5, "the game was lost on time and recorded", "person()=0 person()=1", LOST_ON_TIME_BY_1,
         "record(1,0)=1016 undo()=ISE told(0)=1");
     edge(5, "a record that was refused does not count", "person()=0 person()=1", WON_BY_0,
@@ -404,7 +422,8 @@ final class GameEdges {
     edge(6, "how many cells are empty: all, and none", "told(2)=4 game(1,2,2)=3 told(2)=3",
         "move(0)=-1 told(2)=2 move(1)=-1 told(2)=1 move(2)=0 told(2)=0 game(0,6,6)=36 told(2)=36",
         "move(0)=-1 swap()=0 told(2)=35");
-    edge(6, "who has joined and who has won: nobody", "told(3)=-1 told(4)=-1 move(0)=-1 told(3)=-1");
+    edge(6, "who has joined and who has won: nobody", "told(3)=-1 told(4)=-1 move(0)=-1",
+        "told(3)=-1");
     edge(6, "who has joined and who has won: either player", WON_BY_0, "told(3)=0 told(4)=0",
         WON_BY_1, "told(3)=1 told(4)=1");
     edge(6, "lost on time: the other one has won, nobody has joined", LOST_ON_TIME_BY_0,
@@ -428,8 +447,9 @@ final class GameEdges {
   private static void cellArguments() {
     edge(7, "no such cell: one below the first, one behind the last", "cell(-1,0)=IOOBE",
         "cell(4,0)=IOOBE cell(0,0)=-1 cell(3,0)=-1 game(0,6,6)=36 cell(35,4)=5 cell(36,4)=IOOBE",
-        "game(1,6,6)=21 cell(20,4)=5 cell(21,4)=IOOBE game(2,6,3)=18 cell(17,4)=5 cell(18,4)=IOOBE",
-        "cell(2147483647,4)=IOOBE cell(-2147483648,4)=IOOBE cell(64,0)=IOOBE cell(-60,0)=IOOBE");
+        "game(1,6,6)=21 cell(20,4)=5 cell(21,4)=IOOBE game(2,6,3)=18 cell(17,4)=5",
+        "cell(18,4)=IOOBE cell(2147483647,4)=IOOBE cell(-2147483648,4)=IOOBE cell(64,0)=IOOBE",
+        "cell(-60,0)=IOOBE");
     edge(7, "what: 0 to 6", "cell(0,0)=-1 cell(0,6)=-1 cell(0,-1)=IAE cell(0,7)=IAE",
         "cell(3,-2147483648)=IAE cell(3,2147483647)=IAE move(0)=-1 cell(0,-1)=IAE cell(0,7)=IAE",
         "cell(0,6)=0");
@@ -444,11 +464,12 @@ final class GameEdges {
         "cell(3,4)=2 cell(3,5)=0 cell(5,5)=2 cell(14,4)=4 cell(14,5)=4 cell(15,4)=5 cell(15,5)=0",
         "cell(20,4)=5 cell(20,5)=5");
     edge(7, "its row, its column: cells are numbered row by row",
-        "game(2,2,6)=12 cell(5,4)=0 cell(5,5)=5 cell(6,4)=1 cell(6,5)=0",
-        "game(0,6,2)=12 cell(1,4)=0 cell(1,5)=1 cell(2,4)=1 cell(2,5)=0 cell(11,4)=5 cell(11,5)=1");
-    edge(7, "the number of the move: from 0, 1 behind a swap", "game(0,3,3)=9 move(5)=-1 cell(5,6)=0",
-        "swap()=7 cell(7,6)=1 cell(5,6)=-1 move(5)=-1 cell(5,6)=2 move(0)=-1 cell(0,6)=3 undo()=3",
-        "cell(0,6)=-1 cell(5,6)=2 undo()=2 cell(5,6)=-1 undo()=1 cell(5,6)=0 cell(7,6)=-1");
+        "game(2,2,6)=12 cell(5,4)=0 cell(5,5)=5 cell(6,4)=1 cell(6,5)=0 game(0,6,2)=12",
+        "cell(1,4)=0 cell(1,5)=1 cell(2,4)=1 cell(2,5)=0 cell(11,4)=5 cell(11,5)=1");
+    edge(7, "the number of the move: from 0, 1 behind a swap", "game(0,3,3)=9 move(5)=-1",
+        "cell(5,6)=0 swap()=7 cell(7,6)=1 cell(5,6)=-1 move(5)=-1 cell(5,6)=2 move(0)=-1",
+        "cell(0,6)=3 undo()=3 cell(0,6)=-1 cell(5,6)=2 undo()=2 cell(5,6)=-1 undo()=1 cell(5,6)=0",
+        "cell(7,6)=-1");
     edge(7, "the number of the move: 1 behind a swap on the same cell", "move(3)=-1 swap()=3",
         "cell(3,6)=1 undo()=1 cell(3,6)=0");
     edge(7, "the number of the last move of a full board", "game(0,6,6)=36 move(22)=-1 undo()=0",
@@ -461,17 +482,18 @@ final class GameEdges {
     edge(7, "all stones of one player that hang together, and none of the other one",
         "game(0,3,3)=9 move(2)=-1 move(4)=-1 move(5)=-1 move(0)=-1 cell(5,1)=2 cell(5,3)=2",
         "cell(5,2)=6 move(6)=-1 cell(6,1)=1 move(1)=-1 cell(0,1)=3 cell(4,3)=0 cell(4,2)=5");
-    edge(7, "at a side, if one of its stones is", "game(0,3,4)=12 move(5)=-1 move(0)=-1 cell(5,2)=0",
-        "move(6)=-1 move(11)=-1 cell(5,2)=0 move(7)=-1 cell(5,2)=2 cell(6,2)=2 cell(5,1)=3");
+    edge(7, "at a side, if one of its stones is", "game(0,3,4)=12 move(5)=-1 move(0)=-1",
+        "cell(5,2)=0 move(6)=-1 move(11)=-1 cell(5,2)=0 move(7)=-1 cell(5,2)=2 cell(6,2)=2",
+        "cell(5,1)=3");
     edge(7, "a group over the seam of a CYLINDER",
         "game(2,3,6)=18 move(0)=-1 move(6)=-1 move(5)=-1 move(11)=-1 cell(0,1)=2 cell(5,3)=0",
         "cell(6,1)=2 cell(11,3)=6 cell(11,2)=0 move(10)=-1 move(12)=-1 cell(10,1)=3 cell(10,3)=0",
         "cell(12,1)=3 cell(12,2)=2 cell(12,3)=6");
     edge(7, "groups of a full board", "game(0,6,6)=36", moves(FULL_RHOMB, 0, 35),
         "move(4)=1 cell(4,1)=13 cell(4,2)=13 cell(4,3)=4 cell(0,1)=1 cell(0,2)=5");
-    edge(7, "the sides of a group of a TRIANGLE", "game(1,4,4)=10 move(3)=-1 move(9)=-1 cell(3,2)=1",
-        "cell(9,2)=6 move(4)=-1 move(0)=-1 cell(4,2)=1 cell(0,2)=3 move(7)=-1 move(2)=-1",
-        "cell(3,2)=5 cell(2,2)=3 cell(2,1)=2");
+    edge(7, "the sides of a group of a TRIANGLE", "game(1,4,4)=10 move(3)=-1 move(9)=-1",
+        "cell(3,2)=1 cell(9,2)=6 move(4)=-1 move(0)=-1 cell(4,2)=1 cell(0,2)=3 move(7)=-1",
+        "move(2)=-1 cell(3,2)=5 cell(2,2)=3 cell(2,1)=2");
   }
 
   /** Each cell of each board, with one stone, by the words on sides. */
@@ -535,7 +557,8 @@ final class GameEdges {
         "game(2,2,3)=6 neighbour(2,0)=0 neighbour(0,2)=5 neighbour(5,5)=0 neighbour(3,3)=5",
         "game(2,6,6)=36 neighbour(35,0)=30 neighbour(0,3)=5 neighbour(24,2)=35 neighbour(35,5)=24");
     edge(8, "a CYLINDER ends at its first and its last row", "game(2,3,4)=12 neighbour(0,4)=-1",
-        "neighbour(3,5)=-1 neighbour(3,4)=-1 neighbour(8,1)=-1 neighbour(8,2)=-1 neighbour(11,1)=-1");
+        "neighbour(3,5)=-1 neighbour(3,4)=-1 neighbour(8,1)=-1 neighbour(8,2)=-1",
+        "neighbour(11,1)=-1");
   }
 
   /** Each cell of each board and each direction, by the table of the document. */

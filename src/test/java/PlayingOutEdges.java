@@ -1,7 +1,7 @@
 /** Promises 16 to 18: for each sentence that names a boundary case, runs that hold to it. */
 final class PlayingOutEdges {
-  private static final String WON_BY_0 = " game(0,2,2)=4 move(0)=-1 move(3)=-1 move(1)=0 ";
-  private static final String WON_BY_1 = " game(0,2,2)=4 move(0)=-1 move(1)=-1 move(3)=-1 move(2)=1 ";
+  private static final String WON_BY_0 = Script.WON_BY_0;
+  private static final String WON_BY_1 = Script.WON_BY_1;
 
   private PlayingOutEdges() {
   }
@@ -28,11 +28,11 @@ final class PlayingOutEdges {
   private static void farArguments() {
     edge(16, "no such player: -1, 2", "far(-1)=IOOBE far(2)=IOOBE far(0)=2 far(1)=2",
         "far(-2147483648)=IOOBE far(2147483647)=IOOBE game(1,3,3)=6 far(2)=IOOBE far(1)=3");
-    edge(16, "not told of the player 1 on a CYLINDER", "game(2,3,3)=9 far(1)=ISE far(0)=3 move(0)=-1",
-        "far(1)=ISE far(0)=2", "game(1,3,3)=6 far(1)=3 game(0,3,3)=9 far(1)=3");
+    edge(16, "not told of the player 1 on a CYLINDER", "game(2,3,3)=9 far(1)=ISE far(0)=3",
+        "move(0)=-1 far(1)=ISE far(0)=2 game(1,3,3)=6 far(1)=3 game(0,3,3)=9 far(1)=3");
     edge(16, "not told of the player 1 on a CYLINDER, when somebody has joined either",
-        "game(2,2,3)=6 move(0)=-1 move(4)=-1 move(5)=0 far(0)=0 far(1)=ISE game(2,2,3)=6 move(0)=-1",
-        "move(3)=-1 move(1)=-1 move(4)=-1 move(2)=-1 move(5)=1 far(0)=-1 far(1)=ISE");
+        "game(2,2,3)=6 move(0)=-1 move(4)=-1 move(5)=0 far(0)=0 far(1)=ISE game(2,2,3)=6",
+        "move(0)=-1 move(3)=-1 move(1)=-1 move(4)=-1 move(2)=-1 move(5)=1 far(0)=-1 far(1)=ISE");
     edge(16, "no such player is told first, on a CYLINDER too", "game(2,3,3)=9 far(2)=IOOBE",
         "far(-1)=IOOBE far(1)=ISE");
   }
@@ -49,22 +49,28 @@ final class PlayingOutEdges {
         "game(2,3,3)=9 move(6)=-1 move(3)=-1 move(7)=-1 move(4)=-1 move(8)=-1 far(0)=2 move(5)=1",
         "far(0)=-1");
     edge(16, "of a full board 0 or NONE", "game(0,6,6)=36",
-        GameEdges.moves(GameEdges.FULL_RHOMB, 0, 35), "far(0)=1 far(1)=1 move(4)=1 far(0)=-1 far(1)=0",
+        GameEdges.moves(GameEdges.FULL_RHOMB, 0, 35), "far(0)=1 far(1)=1 move(4)=1 far(0)=-1",
+        "far(1)=0",
         "game(1,6,6)=21", GameEdges.moves(GameEdges.FULL_TRIANGLE, 0, 20), "far(0)=1 far(1)=1",
         "move(4)=0 far(0)=0 far(1)=-1", "game(2,6,6)=36",
         GameEdges.moves(GameEdges.FULL_CYLINDER, 0, 35), "far(0)=1 move(8)=1 far(0)=-1");
     edge(16, "its own stones cost nothing, those of the other one are no way",
-        "game(0,3,3)=9 move(4)=-1 far(0)=2 far(1)=3 move(0)=-1 far(1)=2 move(3)=-1 far(0)=1 move(5)=-1",
-        "far(0)=1 far(1)=2 move(1)=-1 far(1)=2");
+        "game(0,3,3)=9 move(4)=-1 far(0)=2 far(1)=3 move(0)=-1 far(1)=2 move(3)=-1 far(0)=1",
+        "move(5)=-1 far(0)=1 far(1)=2 move(1)=-1 far(1)=2");
     edge(16, "a wall of the other one is gone round",
-        "game(0,4,4)=16 move(0)=-1 move(1)=-1 move(15)=-1 move(5)=-1 far(0)=3 far(1)=2 move(14)=-1",
-        "move(9)=-1 far(0)=2 far(1)=1");
-    edge(16, "one that goes to the side by its last cell alone",
-        "game(0,2,3)=6 move(0)=-1 move(3)=-1 move(1)=-1 far(0)=1 far(1)=2 move(4)=-1 far(0)=1 far(1)=1",
-        "move(2)=0 far(0)=0 far(1)=-1 undo()=4 undo()=3 move(2)=-1 far(0)=2 far(1)=1");
-    edge(16, "told of a game that was lost on time", "clocks(1,0,1)=nothing think(2)=1 far(0)=2 far(1)=2");
-    edge(16, "over the seam of a CYLINDER", "game(2,3,4)=12 move(0)=-1 move(4)=-1 move(10)=-1 far(0)=1",
-        "move(7)=-1 far(0)=2 game(2,3,6)=18 move(6)=-1 move(0)=-1 move(17)=-1 far(0)=1 move(1)=-1 far(0)=2");
+        "game(0,4,4)=16 move(0)=-1 move(1)=-1 move(15)=-1 move(5)=-1 far(0)=3 far(1)=2",
+        "move(14)=-1 move(9)=-1 far(0)=2 far(1)=1");
+    edge(16, "stones of the other one that leave one way, and none",
+        "game(0,2,3)=6 move(0)=-1 move(3)=-1 move(1)=-1 far(0)=1 far(1)=2 move(4)=-1 far(0)=1",
+        "far(1)=1 move(2)=0 far(0)=0 far(1)=-1 undo()=4 undo()=3 move(2)=-1 far(0)=2 far(1)=1");
+    edge(16, "one way in: the lowest cell of the side, the highest one", "move(3)=-1 move(2)=-1",
+        "far(0)=2 undo()=1 undo()=0 move(1)=-1 move(0)=-1 far(0)=1 far(1)=1 game(0,2,3)=6",
+        "move(5)=-1 move(3)=-1 far(0)=3 game(0,3,2)=6 move(5)=-1 move(0)=-1 move(1)=-1 far(1)=2");
+    edge(16, "told of a game that was lost on time", "clocks(1,0,1)=nothing think(2)=1 far(0)=2",
+        "far(1)=2");
+    edge(16, "over the seam of a CYLINDER", "game(2,3,4)=12 move(0)=-1 move(4)=-1 move(10)=-1",
+        "far(0)=1 move(7)=-1 far(0)=2 game(2,3,6)=18 move(6)=-1 move(0)=-1 move(17)=-1 far(0)=1",
+        "move(1)=-1 far(0)=2");
   }
 
   private static void farMeets() {
@@ -74,35 +80,40 @@ final class PlayingOutEdges {
     edge(16, "on a TRIANGLE three ways that meet in its own group",
         "game(1,6,6)=21 move(12)=-1 far(0)=5 move(0)=-1 far(0)=5 move(7)=-1 far(0)=4 move(20)=-1",
         "far(0)=4 far(1)=4 move(15)=-1 far(1)=4");
-    edge(16, "on a TRIANGLE a corner is at two sides", "game(1,3,3)=6 move(4)=-1 far(0)=2 move(3)=-1",
-        "far(0)=2 far(1)=2 move(5)=-1 far(0)=1 far(1)=2");
+    edge(16, "on a TRIANGLE a corner is at two sides", "game(1,3,3)=6 move(4)=-1 far(0)=2",
+        "move(3)=-1 far(0)=2 far(1)=2 move(5)=-1 far(0)=1 far(1)=2");
     edge(16, "on a TRIANGLE as far as its rows say: each of them",
-        "game(1,2,2)=3 far(0)=2 game(1,3,3)=6 far(0)=3 game(1,4,4)=10 far(0)=4 game(1,5,5)=15 far(0)=5",
-        "game(1,6,6)=21 far(0)=6");
+        "game(1,2,2)=3 far(0)=2 game(1,3,3)=6 far(0)=3 game(1,4,4)=10 far(0)=4 game(1,5,5)=15",
+        "far(0)=5 game(1,6,6)=21 far(0)=6");
   }
 
   // ---- promises 17 and 18
 
   private static void playsArguments() {
-    edge(17, "seed: 0 to 1000000", "plays(0,1)=0 plays(1000000,1)=0 plays(-1,1)=IAE plays(1000001,1)=IAE",
-        "plays(-2147483648,1)=IAE plays(2147483647,1)=IAE plays(999999,2)=0 plays(1000000,50)=20");
-    edge(17, "times: 1 to 50", "plays(0,1)=0 plays(0,50)=22 plays(0,0)=IAE plays(0,51)=IAE plays(0,-1)=IAE",
-        "plays(0,-2147483648)=IAE plays(0,2147483647)=IAE");
+    edge(17, "seed: 0 to 1000000", "plays(0,1)=0 plays(1000000,1)=0 plays(-1,1)=IAE",
+        "plays(1000001,1)=IAE plays(-2147483648,1)=IAE plays(2147483647,1)=IAE plays(999999,2)=0",
+        "plays(1000000,50)=20");
+    edge(17, "times: 1 to 50", "plays(0,1)=0 plays(0,50)=22 plays(0,0)=IAE plays(0,51)=IAE",
+        "plays(0,-1)=IAE plays(0,-2147483648)=IAE plays(0,2147483647)=IAE");
     edge(17, "somebody has joined: either player", WON_BY_0, "plays(0,1)=ISE plays(1000000,50)=ISE",
         "undo()=2 plays(0,1)=1", WON_BY_1, "plays(0,1)=ISE undo()=3 plays(0,50)=0");
-    edge(17, "somebody has joined: on a full board somebody has", "game(1,2,2)=3 move(1)=-1 move(2)=-1",
-        "plays(5,50)=50 move(0)=0 plays(5,50)=ISE");
+    edge(17, "somebody has joined: on a full board somebody has", "game(1,2,2)=3 move(1)=-1",
+        "move(2)=-1 plays(5,50)=50 move(0)=0 plays(5,50)=ISE");
     edge(17, "seed or times out of range is told ahead of somebody who has joined", WON_BY_0,
         "plays(-1,1)=IAE plays(1000001,1)=IAE plays(0,0)=IAE plays(0,51)=IAE plays(0,1)=ISE");
-    edge(17, "lost on time is not joined: it is told", "clocks(1,0,1)=nothing think(2)=1 plays(0,50)=22");
+    edge(17, "lost on time is not joined: it is told", "clocks(1,0,1)=nothing think(2)=1",
+        "plays(0,50)=22");
   }
 
   private static void playedOutArguments() {
     edge(18, "seed: 0 to 1000000", "playedOut(0)=5 playedOut(1000000)=5 playedOut(-1)=IAE",
-        "playedOut(1000001)=IAE playedOut(-2147483648)=IAE playedOut(2147483647)=IAE playedOut(1)=12");
-    edge(18, "somebody has joined: either player", WON_BY_0, "playedOut(0)=ISE undo()=2 playedOut(0)=3",
+        "playedOut(1000001)=IAE playedOut(-2147483648)=IAE playedOut(2147483647)=IAE",
+        "playedOut(1)=12");
+    edge(18, "somebody has joined: either player", WON_BY_0, "playedOut(0)=ISE undo()=2",
+        "playedOut(0)=3",
         WON_BY_1, "playedOut(1000000)=ISE undo()=3 playedOut(1000000)=9");
-    edge(18, "seed out of range is told ahead of somebody who has joined", WON_BY_0, "playedOut(-1)=IAE",
+    edge(18, "seed out of range is told ahead of somebody who has joined", WON_BY_0,
+        "playedOut(-1)=IAE",
         "playedOut(1000001)=IAE playedOut(0)=ISE", WON_BY_1, "playedOut(-1)=IAE playedOut(5)=ISE");
     edge(18, "lost on time is not joined: it is told, from who is to move",
         "clocks(1,0,1)=nothing move(1)=-1 think(2)=0 playedOut(0)=6 playedOut(1)=3");
@@ -122,8 +133,8 @@ final class PlayingOutEdges {
     edge(17, "with the seeds from one on, one by one: the last one may be above 1000000",
         "game(0,3,3)=9 move(2)=-1 plays(999998,1)=0 plays(999999,1)=1 plays(1000000,1)=1",
         "plays(999998,3)=2 plays(1000000,2)=2 plays(1000000,50)=36");
-    edge(17, "in none, and in all of them", "move(3)=-1 move(1)=-1 move(0)=-1 plays(7,50)=0 plays(0,1)=0",
-        "game(1,2,2)=3 move(1)=-1 move(2)=-1 plays(7,50)=50 plays(0,1)=1");
+    edge(17, "in none, and in all of them", "move(3)=-1 move(1)=-1 move(0)=-1 plays(7,50)=0",
+        "plays(0,1)=0 game(1,2,2)=3 move(1)=-1 move(2)=-1 plays(7,50)=50 plays(0,1)=1");
   }
 
   // ---- how it is drawn
@@ -141,18 +152,19 @@ final class PlayingOutEdges {
         "move(3)=-1 move(1)=-1 move(0)=-1 playedOut(0)=9 playedOut(1)=9 playedOut(1000000)=9",
         "game(1,2,2)=3 move(1)=-1 move(2)=-1 playedOut(0)=3 playedOut(77)=3");
     edge(18, "the same seed again gives the same, whatever was asked between",
-        "game(0,4,4)=16 playedOut(5)=42900 plays(9,9)=4 playedOut(6)=59748 playedOut(5)=42900 plays(9,9)=4");
+        "game(0,4,4)=16 playedOut(5)=42900 plays(9,9)=4 playedOut(6)=59748 playedOut(5)=42900",
+        "plays(9,9)=4");
   }
 
   private static void playingOutFromThePosition() {
     edge(18, "from the position as it is: who is to move moves first",
-        "game(0,3,3)=9 playedOut(3)=369 move(4)=-1 playedOut(3)=55 swap()=4 playedOut(3)=456 undo()=1 undo()=0",
-        "playedOut(3)=369");
+        "game(0,3,3)=9 playedOut(3)=369 move(4)=-1 playedOut(3)=55 swap()=4 playedOut(3)=456",
+        "undo()=1 undo()=0 playedOut(3)=369");
     edge(18, "until no cell is empty, whoever has joined in between",
-        "game(0,3,3)=9 move(0)=-1 move(8)=-1 move(1)=-1 move(7)=-1 playedOut(0)=55 playedOut(1)=47",
-        "playedOut(2)=103 playedOut(4)=31 plays(0,50)=38");
-    edge(18, "the position itself stays", "game(0,3,3)=9 move(4)=-1 playedOut(3)=55 told(2)=8 cell(0,0)=-1",
-        "told(1)=1 told(0)=1 undo()=0");
+        "game(0,3,3)=9 move(0)=-1 move(8)=-1 move(1)=-1 move(7)=-1 playedOut(0)=55",
+        "playedOut(1)=47 playedOut(2)=103 playedOut(4)=31 plays(0,50)=38");
+    edge(18, "the position itself stays", "game(0,3,3)=9 move(4)=-1 playedOut(3)=55 told(2)=8",
+        "cell(0,0)=-1 told(1)=1 told(0)=1 undo()=0");
   }
 
   /** What playedOut is due to answer with the seeds from one on. */
@@ -176,8 +188,10 @@ final class PlayingOutEdges {
         bridge, "move(2)=-1", outs(0, 234, 186, 426, 234, 122, 314, 242, 434));
     edge(18, "of several the lowest: one stone breaks two bridges",
         "game(2,6,6)=36", outs(4, 42520157076L, 25806368486L, 27614603360L, 16563510407L,
-            51790476160L, 11063402086L), "game(0,4,4)=16 move(5)=-1 move(0)=-1 move(10)=-1 move(3)=-1",
-        outs(14, 42662, 30384, 46944, 44386, 10164, 15476, 60528, 28576, 29936, 18230, 44272, 30500));
+            51790476160L, 11063402086L), "game(0,4,4)=16 move(5)=-1 move(0)=-1 move(10)=-1",
+        "move(3)=-1",
+        outs(14, 42662, 30384, 46944, 44386, 10164, 15476, 60528, 28576, 29936, 18230, 44272,
+            30500));
     edge(18, "behind a swap", "game(0,4,4)=16 move(1)=-1 swap()=4 move(5)=-1",
         outs(0, 14638, 58728, 42157, 21411, 53986, 58470, 3561, 44137));
     edge(18, "bridges on a TRIANGLE", "game(1,5,5)=15 move(4)=-1",
@@ -190,13 +204,15 @@ final class PlayingOutEdges {
         "game(2,3,3)=9 move(0)=-1 move(1)=-1 move(5)=-1", outs(0, 481, 229, 229, 241, 61, 369),
         "game(2,6,3)=18", outs(0, 205049, 134574, 183109, 161665, 210204, 181403, 48453, 72156));
     edge(18, "a bridge over the seam of a CYLINDER, of four columns within a row too",
-        "game(2,2,4)=8 move(0)=-1 move(1)=-1 move(2)=-1", outs(0, 149, 165, 53, 197, 197, 101, 141, 45),
+        "game(2,2,4)=8 move(0)=-1 move(1)=-1 move(2)=-1",
+        outs(0, 149, 165, 53, 197, 197, 101, 141, 45),
         "game(2,3,4)=12 move(0)=-1 move(1)=-1 move(2)=-1",
         outs(0, 1445, 605, 125, 1133, 717, 2109, 1133, 2637));
     edge(18, "no bridge: neighbours, and two cells with one neighbour in common",
         "game(0,2,5)=10 move(2)=-1 move(1)=-1 move(8)=-1",
         outs(0, 812, 916, 796, 460, 901, 364, 333, 316),
-        "game(0,4,4)=16 move(5)=-1 move(0)=-1 move(8)=-1 move(3)=-1 move(10)=-1 move(15)=-1 move(2)=-1",
+        "game(0,4,4)=16 move(5)=-1 move(0)=-1 move(8)=-1 move(3)=-1 move(10)=-1 move(15)=-1",
+        "move(2)=-1",
         outs(40, 7974, 28452, 15716, 8100, 28452, 22372, 30500, 30052));
   }
 }

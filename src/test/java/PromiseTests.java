@@ -1,7 +1,7 @@
-/** For each promise some runs of calls, as Script reads them: ordinary ones, edges and wrong ones. */
+/** For each promise runs of calls, as Script reads them: ordinary ones, edges and wrong ones. */
 public final class PromiseTests {
-  private static final String WON_BY_0 = "game(0,2,2)=4 move(0)=-1 move(3)=-1 move(1)=0";
-  private static final String WON_BY_1 = "game(0,2,2)=4 move(0)=-1 move(1)=-1 move(3)=-1 move(2)=1";
+  private static final String WON_BY_0 = Script.WON_BY_0;
+  private static final String WON_BY_1 = Script.WON_BY_1;
 
   private PromiseTests() {
   }
@@ -37,7 +37,8 @@ public final class PromiseTests {
     person();
     record();
     ofPerson();
-    System.out.println("PromiseTests: " + Script.calls + " answers, " + Script.wrong + " not as due");
+    System.out.println("PromiseTests: " + Script.calls + " answers, " + Script.wrong
+        + " not as due");
     if (Script.wrong != 0) {
       System.exit(1);
     }

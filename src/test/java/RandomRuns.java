@@ -47,7 +47,7 @@ public final class RandomRuns {
   }
 
   public static void main(String[] args) {
-    int runs = args.length > 0 ? Integer.parseInt(args[0]) : 8;
+    int runs = args.length > 0 ? Integer.parseInt(args[0]) : 16;
     int first = args.length > 1 ? Integer.parseInt(args[1]) : 1;
     String[][] sets = {EVERYTHING, GAMES, BEST_PLAY, PLAYING_OUT, PATTERNS, CLOCKS};
     for (int i = 0; i < runs * sets.length && wrong == 0; i++) {
@@ -73,7 +73,8 @@ public final class RandomRuns {
           call("clocks", arguments("clocks"));
           made++;
         }
-        for (int i = names == CLOCKS ? 0 : random.nextInt(37); i > 0 && made < CALLS - 1 && needsMoves(); i--) {
+        int moves = names == CLOCKS ? 0 : random.nextInt(37);
+        for (int i = 0; i < moves && made < CALLS - 1 && needsMoves(); i++) {
           call("move", emptyCell());
           made++;
         }
@@ -195,7 +196,8 @@ public final class RandomRuns {
   private long[] typed() {
     int n = random.nextInt(12) == 0 ? (int) number(1, 8) : 1 + random.nextInt(8);
     int had = tapeLength() - lastBar();
-    long characters = random.nextInt(4) == 0 ? random.nextLong() << 8 * Math.max(0, Math.min(7, n)) : 0;
+    int shift = 8 * Math.max(0, Math.min(7, n));
+    long characters = random.nextInt(4) == 0 ? random.nextLong() << shift : 0;
     if (n > 7 || n < 0) {
       characters = 0;
     }

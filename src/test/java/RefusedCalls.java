@@ -11,10 +11,11 @@ public final class RefusedCalls {
   private static final int LEAST = Integer.MIN_VALUE, MOST = Integer.MAX_VALUE;
   /** So many calls are made on one object, so that there is room to ask it all things then. */
   private static final int BATCH = 250;
-  private static final int[] NONE = {};
   private static final int[] PLAYERS = {LEAST, -1, 0, 1, 2, MOST};
-  private static final int[] CELLS = {LEAST, -1, 0, 1, 2, 3, 4, 5, 6, 8, 9, 10, 20, 21, 35, 36, 64, MOST};
-  private static final int[] ENDS = {LEAST, -1, 0, 1, 3, 4, 9, 35, 36, 99, 100, 101, 102, 103, 104, MOST};
+  private static final int[] CELLS = {LEAST, -1, 0, 1, 2, 3, 4, 5, 6, 8, 9, 10, 20, 21, 35, 36, 64,
+      MOST};
+  private static final int[] ENDS = {LEAST, -1, 0, 1, 3, 4, 9, 35, 36, 99, 100, 101, 102, 103,
+      104, MOST};
   private static final int[] SEEDS = {LEAST, -1, 0, 1, 1000000, 1000001, MOST};
   private static final int[] TENS = {LEAST, -1, 0, 1, 2, 3, 9, 10, MOST};
   private static final int[] WHATS = {LEAST, -1, 0, 1, 2, 3, 4, 5, 6, 7, MOST};
@@ -23,17 +24,17 @@ public final class RefusedCalls {
   /** Positions that are empty, full, over, lost, recorded, and between. */
   private static final String[] POSITIONS = {
     "",
-    "tape(..####!)= pattern()= person()= person()= tape(......!|)= clocks(9,2,5)= think(11)= move(1)="
-        + " think(3)=",
+    "tape(..####!)= pattern()= person()= person()= tape(......!|)= clocks(9,2,5)= think(11)="
+        + " move(1)= think(3)=",
     "person()= person()= clocks(9,2,5)= move(1)= swap()= think(10)= tape(*****)=",
     "person()= person()= move(0)= move(3)= move(1)=",
     "person()= person()= person()= move(0)= move(1)= move(3)= move(2)= record(2,1)=",
     "person()= person()= clocks(1,0,1)= think(2)=",
     "person()= person()= clocks(0,2,5)= move(0)= think(4)= undo()= move(1)= think(9)= record(1,0)=",
-    "tape(......)= pattern()= tape(******)= pattern()= tape(oooooo)= pattern()= tape(xxxxxx)= pattern()="
-        + " tape(######)= pattern()= tape(..####|...###)= pattern()= tape(..####!|###..#!|...###!|......)="
-        + " person()= person()= person()= person()= person()= person()= person()= person()= person()="
-        + " person()= move(0)= move(3)=",
+    "tape(......)= pattern()= tape(******)= pattern()= tape(oooooo)= pattern()= tape(xxxxxx)="
+        + " pattern()= tape(######)= pattern()= tape(..####|...###)= pattern()="
+        + " tape(..####!|###..#!|...###!|......)= person()= person()= person()= person()="
+        + " person()= person()= person()= person()= person()= person()= move(0)= move(3)=",
     "tape(......|......|......|......|.!)= game(2,2,5)= person()=",
     "game(2,3,3)= move(0)= move(3)= move(1)= move(4)= undo()= tape(.)=",
     "game(1,4,4)= move(4)= swap()= move(0)= move(3)= undo()=",
@@ -79,8 +80,8 @@ public final class RefusedCalls {
     tryAll("cell", true, CELLS, WHATS);
     tryAll("neighbour", true, CELLS, WHATS);
     tryAll("carrier", true, PLAYERS, ENDS, ENDS);
-    tryAll("answer", true, PLAYERS, new int[] {-1, 0, 1, 100, 101, 104}, new int[] {-1, 1, 3, 100, 102},
-        new int[] {LEAST, -1, 0, 2, 3, 36, MOST});
+    tryAll("answer", true, PLAYERS, new int[] {-1, 0, 1, 100, 101, 104},
+        new int[] {-1, 1, 3, 100, 102}, new int[] {LEAST, -1, 0, 2, 3, 36, MOST});
     tryAll("gaveAway", true, CELLS);
     tryAll("far", true, PLAYERS);
     tryAll("plays", true, SEEDS, new int[] {LEAST, -1, 0, 1, 50, 51, MOST});
@@ -98,8 +99,8 @@ public final class RefusedCalls {
 
   /** All arguments of these bounds; what is asked and answered is held against the Oracle too. */
   private void tryAll(String name, boolean asks, int[]... bounds) {
-    List<String> refusals = new ArrayList<>(), answered = new ArrayList<>(), dues = new ArrayList<>();
-    List<String> answers = new ArrayList<>();
+    List<String> refusals = new ArrayList<>(), dues = new ArrayList<>();
+    List<String> answered = new ArrayList<>(), answers = new ArrayList<>();
     oracle = null;
     for (String call : product(name, bounds)) {
       oracle = oracle == null ? replayed(new Oracle(), setup) : oracle;
@@ -151,7 +152,8 @@ public final class RefusedCalls {
       List<String> made = new ArrayList<>(setup);
       for (int i = from; i < until; i++) {
         String got = Script.perform(court, calls.get(i));
-        that(got.equals(dues.get(i)), calls.get(i) + " answered " + got + ", due is " + dues.get(i));
+        that(got.equals(dues.get(i)), calls.get(i) + " answered " + got + ", due is "
+            + dues.get(i));
         made.add(calls.get(i));
       }
       int count = made.size() + 30;

@@ -8,6 +8,10 @@ import java.util.List;
  * led through the same run without them: it must not be told from the first one.
  */
 final class Script {
+  /** Games that begin, and are won by joining. */
+  static final String WON_BY_0 = " game(0,2,2)=4 move(0)=-1 move(3)=-1 move(1)=0 ";
+  static final String WON_BY_1 = " game(0,2,2)=4 move(0)=-1 move(1)=-1 move(3)=-1 move(2)=1 ";
+
   static int wrong = 0;
   static int calls = 0;
   static int edges = 0;
