@@ -1,3 +1,6 @@
+import java.util.ArrayList;
+import java.util.List;
+
 /** Promises 1 to 8: for each sentence that names a boundary case, runs that hold to it. */
 final class GameEdges {
   private static final int RHOMB = 0, TRIANGLE = 1, CYLINDER = 2;
@@ -16,8 +19,8 @@ final class GameEdges {
       22, 32, 29, 33, 6, 25, 35, 7, 4, 1, 24, 5, 10, 11, 19, 20, 27, 12, 16, 8};
 
   /** Moves behind a swap on the cell 0; then the cell 34 alone is empty, and decides. */
-  private static final int[] SWAPPED_RHOMB = {13, 4, 14, 10, 15, 16, 17, 22, 18, 28, 19, 1, 20, 2, 21,
-      3, 23, 6, 24, 7, 25, 8, 26, 9, 27, 5, 29, 11, 31, 12, 32, 30, 33, 35};
+  private static final int[] SWAPPED_RHOMB = {13, 4, 14, 10, 15, 16, 17, 22, 18, 28, 19, 1, 20, 2,
+      21, 3, 23, 6, 24, 7, 25, 8, 26, 9, 27, 5, 29, 11, 31, 12, 32, 30, 33, 35};
 
   private GameEdges() {
   }
@@ -138,11 +141,10 @@ final class GameEdges {
         "game(1,3,0)=IAE told(2)=6");
     StringBuilder all = new StringBuilder();
     for (int kind = -1; kind <= 3; kind++) {
-      for (int rows = 1; rows <= 7; rows++) {
-        for (int columns = 1; columns <= 7; columns++) {
-          all.append("game(").append(kind).append(',').append(rows).append(',').append(columns);
-          all.append(")=").append(cellsOf(kind, rows, columns)).append(' ');
-        }
+      for (int i = 0; i < 49; i++) {
+        int rows = 1 + i / 7, columns = 1 + i % 7, cells = cellsOf(kind, rows, columns);
+        all.append("game(" + kind + "," + rows + "," + columns + ")=");
+        all.append(cells > 0 ? cells + " " : "IAE ");
       }
     }
     edge(2, "returns how many cells it has", all.toString());
@@ -151,10 +153,29 @@ final class GameEdges {
         "cell(6,4)=3 cell(6,5)=0");
   }
 
-  private static String cellsOf(int kind, int rows, int columns) {
+  /** How many cells a board has; 0 if there is none. */
+  private static int cellsOf(int kind, int rows, int columns) {
     boolean is = rows > 1 && rows < 7 && columns < 7 && (kind == RHOMB && columns > 1
         || kind == TRIANGLE && columns == rows || kind == CYLINDER && columns > 2);
-    return !is ? "IAE" : String.valueOf(kind == TRIANGLE ? rows * (rows + 1) / 2 : rows * columns);
+    return !is ? 0 : kind == TRIANGLE ? rows * (rows + 1) / 2 : rows * columns;
+  }
+
+  /** All boards: the kind, rows, columns and cells of each. */
+  private static List<int[]> boards() {
+    List<int[]> boards = new ArrayList<>();
+    for (int kind = RHOMB; kind <= CYLINDER; kind++) {
+      for (int i = 0; i < 25; i++) {
+        int rows = 2 + i / 5, columns = 2 + i % 5, cells = cellsOf(kind, rows, columns);
+        if (cells > 0) {
+          boards.add(new int[] {kind, rows, columns, cells});
+        }
+      }
+    }
+    return boards;
+  }
+
+  private static String begun(int[] board) {
+    return "game(" + board[0] + "," + board[1] + "," + board[2] + ")=" + board[3];
   }
 
   private static void gameBegins() {
@@ -192,19 +213,11 @@ final class GameEdges {
   // ---- promise 3
 
   private static void moveArguments() {
-    for (int kind = RHOMB; kind <= CYLINDER; kind++) {
-      for (int rows = 2; rows <= 6; rows++) {
-        for (int columns = 2; columns <= 6; columns++) {
-          String is = cellsOf(kind, rows, columns);
-          if (!is.equals("IAE")) {
-            int last = Integer.parseInt(is) - 1;
-            edge(3, "no such cell: one below the first, one behind the last",
-                "game(" + kind + "," + rows + "," + columns + ")=" + is, "move(-1)=IOOBE",
-                "move(" + is + ")=IOOBE move(" + last + ")=-1 move(0)=-1 cell(" + last + ",0)=0",
-                "cell(0,0)=1 told(0)=2 move(0)=IAE move(" + last + ")=IAE");
-          }
-        }
-      }
+    for (int[] board : boards()) {
+      int cells = board[3], last = cells - 1;
+      edge(3, "no such cell: one below the first, one behind the last", begun(board),
+          "move(-1)=IOOBE move(" + cells + ")=IOOBE move(" + last + ")=-1 move(0)=-1",
+          "cell(" + last + ",0)=0 cell(0,0)=1 told(0)=2 move(0)=IAE move(" + last + ")=IAE");
     }
     edge(3, "no such cell: far off", "move(64)=IOOBE move(100)=IOOBE move(2147483647)=IOOBE",
         "move(-64)=IOOBE move(-2147483648)=IOOBE told(0)=0 told(1)=0");
@@ -498,25 +511,18 @@ final class GameEdges {
 
   /** Each cell of each board, with one stone, by the words on sides. */
   private static void sidesOfEachCell() {
-    for (int kind = RHOMB; kind <= CYLINDER; kind++) {
-      for (int rows = 2; rows <= 6; rows++) {
-        for (int columns = 2; columns <= 6; columns++) {
-          String is = cellsOf(kind, rows, columns);
-          StringBuilder calls = new StringBuilder();
-          for (int r = 0; r < rows && !is.equals("IAE"); r++) {
-            for (int c = 0; c < (kind == TRIANGLE ? r + 1 : columns); c++) {
-              int cell = kind == TRIANGLE ? r * (r + 1) / 2 + c : r * columns + c;
-              calls.append("cell(" + cell + ",4)=" + r + " cell(" + cell + ",5)=" + c + " move(");
-              calls.append(cell + ")=-1 cell(" + cell + ",2)=" + sides(kind, rows, columns, r, c));
-              calls.append(" undo()=0 ");
-            }
-          }
-          if (!is.equals("IAE")) {
-            edge(7, "the sides of a cell", "game(" + kind + "," + rows + "," + columns + ")=" + is,
-                calls.toString());
-          }
+    for (int[] board : boards()) {
+      int kind = board[0], rows = board[1], columns = board[2], cell = 0;
+      StringBuilder calls = new StringBuilder();
+      for (int r = 0; r < rows; r++) {
+        for (int c = 0; c < (kind == TRIANGLE ? r + 1 : columns); c++) {
+          calls.append("cell(" + cell + ",4)=" + r + " cell(" + cell + ",5)=" + c);
+          calls.append(" move(" + cell + ")=-1 cell(" + cell + ",2)=");
+          calls.append(sides(kind, rows, columns, r, c) + " undo()=0 ");
+          cell++;
         }
       }
+      edge(7, "the row, the column and the sides of a cell", begun(board), calls.toString());
     }
   }
 
@@ -565,24 +571,17 @@ final class GameEdges {
   private static void neighboursOfEachCell() {
     int[] rowSteps = {0, 1, 1, 0, -1, -1};
     int[] columnSteps = {1, 0, -1, -1, 0, 1}, triangleSteps = {1, 1, 0, -1, -1, 0};
-    for (int kind = RHOMB; kind <= CYLINDER; kind++) {
-      for (int rows = 2; rows <= 6; rows++) {
-        for (int columns = 2; columns <= 6; columns++) {
-          String is = cellsOf(kind, rows, columns);
-          StringBuilder calls = new StringBuilder();
-          for (int r = 0; r < rows && !is.equals("IAE"); r++) {
-            for (int i = 0; i < 6 * (kind == TRIANGLE ? r + 1 : columns); i++) {
-              int c = i / 6, step = (kind == TRIANGLE ? triangleSteps : columnSteps)[i % 6];
-              calls.append("neighbour(" + number(kind, columns, r, c) + "," + i % 6 + ")=");
-              calls.append(at(kind, rows, columns, r + rowSteps[i % 6], c + step) + " ");
-            }
-          }
-          if (!is.equals("IAE")) {
-            edge(8, "the neighbours of all cells", "game(" + kind + "," + rows + "," + columns
-                + ")=" + is, calls.toString());
-          }
+    for (int[] board : boards()) {
+      int kind = board[0], rows = board[1], columns = board[2];
+      StringBuilder calls = new StringBuilder();
+      for (int r = 0; r < rows; r++) {
+        for (int i = 0; i < 6 * (kind == TRIANGLE ? r + 1 : columns); i++) {
+          int c = i / 6, step = (kind == TRIANGLE ? triangleSteps : columnSteps)[i % 6];
+          calls.append("neighbour(" + number(kind, columns, r, c) + "," + i % 6 + ")=");
+          calls.append(at(kind, rows, columns, r + rowSteps[i % 6], c + step) + " ");
         }
       }
+      edge(8, "the neighbours of all cells", begun(board), calls.toString());
     }
   }
 
