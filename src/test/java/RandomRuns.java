@@ -60,29 +60,32 @@ public final class RandomRuns {
   }
 
   private void run() {
-    int made = 0;
-    while (made < CALLS && wrong == 0) {
-      boolean anew = made == 0 || random.nextInt(40) == 0 || names == BEST_PLAY && isOver();
-      if (anew) {
-        int kind = random.nextInt(3), most = names == BEST_PLAY ? 3 : 5;
-        int rows = 2 + random.nextInt(most);
-        int columns = kind == 1 ? rows : (kind == 2 ? 3 : 2) + random.nextInt(most - kind / 2);
-        call("game", kind, rows, columns);
-        made++;
-        if (names == CLOCKS) {
-          call("clocks", arguments("clocks"));
-          made++;
-        }
-        int moves = names == CLOCKS ? 0 : random.nextInt(37);
-        for (int i = 0; i < moves && made < CALLS - 1 && needsMoves(); i++) {
-          call("move", emptyCell());
-          made++;
-        }
+    while (log.size() < CALLS && wrong == 0) {
+      boolean anew = random.nextInt(40) == 0 || names == BEST_PLAY && isOver();
+      if (log.isEmpty() || anew && log.size() < CALLS - 2) {
+        begin();
       }
       String name = names[random.nextInt(names.length)];
-      if (!isDear(name)) {
+      if (!isDear(name) && log.size() < CALLS) {
         call(name, arguments(name));
-        made++;
+      }
+    }
+  }
+
+  private void begin() {
+    int most = names == BEST_PLAY && random.nextInt(4) != 0 ? 3 : 5;
+    int kind = random.nextInt(3), rows = 2 + random.nextInt(most);
+    int columns = kind == 1 ? rows : (kind == 2 ? 3 : 2) + random.nextInt(most - kind / 2);
+    call("game", kind, rows, columns);
+    if (names == CLOCKS) {
+      call("clocks", arguments("clocks"));
+    }
+    int moves = names == CLOCKS ? 0 : names == BEST_PLAY ? 60 : random.nextInt(37);
+    for (int i = 0; i < moves && log.size() < CALLS - 2 && needsMoves(); i++) {
+      call("move", emptyCell());
+      // large boards are to become nearly full, and nobody to have joined
+      if (names == BEST_PLAY && oracle.told(4) != -1 && random.nextInt(8) != 0) {
+        call("undo");
       }
     }
   }
