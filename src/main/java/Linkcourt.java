@@ -143,7 +143,7 @@ public final class Linkcourt {
     return board.next(cell, direction);
   }
 
-  // ---- best play
+  // ---- best play; IllegalState if more than 9 cells are empty
 
   public int best() throws IllegalStateException {
     needFewGaps();
@@ -453,7 +453,7 @@ public final class Linkcourt {
     }
 
     private void meetNeighbours() {
-      for (int cell = 0; cell < cells; cell++) {
+      for (int cell = 0; cell < cells && cell < MOST_CELLS; cell++) {
         long around = 0;
         for (int direction = 0; direction < DIRECTIONS; direction++) {
           int step = kind == TRIANGLE ? TRIANGLE_COLUMN_STEPS[direction] : COLUMN_STEPS[direction];
@@ -504,7 +504,7 @@ public final class Linkcourt {
     }
 
     boolean hasCell(int cell) {
-      return cell >= 0 && cell < cells;
+      return cell >= 0 && cell < cells && cell < MOST_CELLS;
     }
 
     boolean hasEnd(int end) {
@@ -616,7 +616,7 @@ public final class Linkcourt {
     }
 
     void put(int cell) {
-      if (made < log.length) {
+      if (made >= 0 && made < log.length) {
         log[made] = cell;
         made++;
       }
@@ -713,13 +713,13 @@ public final class Linkcourt {
     }
 
     int cellAt(int gap) {
-      return gap >= 0 && gap < count ? cellOf[gap] : NONE;
+      return gap >= 0 && gap < count && gap < MOST_GAPS ? cellOf[gap] : NONE;
     }
 
     /** The set of the cells, as the face tells it. */
     long spread(int set) {
       long cells = 0;
-      for (int gap = 0; gap < count; gap++) {
+      for (int gap = 0; gap < count && gap < MOST_GAPS; gap++) {
         cells |= has(set, gap) ? 1L << cellOf[gap] : 0;
       }
       return cells;
@@ -727,7 +727,7 @@ public final class Linkcourt {
 
     int gather(long cells) {
       int set = 0;
-      for (int gap = 0; gap < count; gap++) {
+      for (int gap = 0; gap < count && gap < MOST_GAPS; gap++) {
         set |= has(cells, cellOf[gap]) ? 1 << gap : 0;
       }
       return set;
@@ -792,14 +792,15 @@ public final class Linkcourt {
     long deadOf(long of0, long of1, int mover) {
       take(of0, of1, mover);
       int alive = 0;
-      for (int set = 0; set <= gaps.full(); set++) {
+      int full = gaps.full();
+      for (int set = 0; set <= full && set < Gaps.SETS; set++) {
         for (int gap = 0; gap < gaps.count; gap++) {
           if (!has(alive, gap) && !has(set, gap) && joins(0, set) != joins(0, set | 1 << gap)) {
             alive |= 1 << gap;
           }
         }
       }
-      return gaps.spread(gaps.full() & ~alive);
+      return gaps.spread(full & ~alive);
     }
 
     private void take(long of0, long of1, int mover) {
@@ -868,7 +869,6 @@ public final class Linkcourt {
 
   /** Links that hold against whoever moves first. */
   private static final class Links {
-
     private final Board board;
     private final Gaps gaps = new Gaps();
     private final byte[] tied = new byte[Gaps.SETS];
@@ -888,12 +888,13 @@ public final class Linkcourt {
       gaps.take(empty);
       Arrays.fill(tied, (byte) UNKNOWN);
       Arrays.fill(held, (byte) UNKNOWN);
+      int full = gaps.full();
       // a cell more in a set never hurts the link: if all of them do not carry it, none do
-      if (!holds(0, gaps.full(), 0)) {
+      if (!holds(0, full, 0)) {
         return NONE;
       }
       for (int size = 0; size <= gaps.count; size++) {
-        for (int set = 0; set <= gaps.full(); set++) {
+        for (int set = 0; set <= full && set < Gaps.SETS; set++) {
           if (Integer.bitCount(set) == size && holds(0, set, 0)) {
             return gaps.spread(set);
           }
@@ -1200,9 +1201,12 @@ public final class Linkcourt {
     }
 
     private void translate(int pattern) {
+      if (!hasPattern(pattern)) {
+        return;
+      }
       int row = 0;
       int had = 0;
-      for (int i = 0; i < lengths[pattern]; i++) {
+      for (int i = 0; i < lengths[pattern] && i < TAPE; i++) {
         char sign = character(pattern, i);
         if (sign == '|') {
           row += row + 1 < MOST_ROWS ? 1 : 0;
